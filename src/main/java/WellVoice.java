@@ -23,7 +23,6 @@ public final class WellVoice {
     private static final int ECHOES = 4;
     private static final int UNSURES = 4;
     private static final int TALKS = 5;
-    private static final int NAMES = CAVES + VOICES + FOLK;
     private static final int PAST = 16;
     private static final int IMAGES = 3;
     private static final int MOST_YEARS = 999;
@@ -48,6 +47,9 @@ public final class WellVoice {
     private static final int LINE_TALK = 7;
     private static final int LINES = 8;
     private static final int[] ROOM = {1, 8, 10, 3, 4, 4, 4, 5};
+
+    /** The words of LINES, which are no NAMES, stand ahead of the NAMES told. */
+    private static final int NAMES = LINES + CAVES + VOICES + FOLK;
 
     private static final int FAULT_FORM = 1;
     private static final int FAULT_NAME = 2;
@@ -909,6 +911,14 @@ public final class WellVoice {
             return number;
         }
 
+        static long numberOf(String word) {
+            long number = 0;
+            for (int i = 0; i < word.length(); i++) {
+                number = number * 32 + (word.charAt(i) - 'a' + 1);
+            }
+            return number;
+        }
+
         int wholeNumber() {
             int number = 0;
             for (int i = place; i < stop; i++) {
@@ -942,11 +952,15 @@ public final class WellVoice {
 
         Reader(byte[] bytes) {
             tokens = new Tokens(bytes);
+            for (int sort = 0; sort < LINES; sort++) {
+                nameWord[sort] = Tokens.numberOf(lineWord(sort));
+                nameSort[sort] = NONE;
+            }
         }
 
         boolean read(int size) {
             draft.empty();
-            names = 0;
+            names = LINES;
             fault = 0;
             place = NONE;
             tokens.begin(size);
@@ -1132,12 +1146,8 @@ public final class WellVoice {
         }
 
         private int lineHere() {
-            for (int sort = 0; sort < LINES; sort++) {
-                if (tokens.isWord(lineWord(sort))) {
-                    return sort;
-                }
-            }
-            return NONE;
+            int name = nameHere();
+            return name < LINES ? name : NONE;
         }
 
         private static String lineWord(int sort) {
@@ -1208,19 +1218,21 @@ public final class WellVoice {
 
         private int caveHere() {
             int name = nameHere();
-            if (name != NONE && nameSort[name] == LINE_CAVE) {
-                return nameNumber[name];
+            if (!isName(name)) {
+                return failsWhole(FAULT_FORM);
             }
-            // The words of LINES are no NAMES, so that one of them is a FAULT of FORM.
-            boolean isName = tokens.sort == Tokens.WORD && lineHere() == NONE;
-            return failsWhole(isName ? FAULT_NAME : FAULT_FORM);
+            if (name == NONE || nameSort[name] != LINE_CAVE) {
+                return failsWhole(FAULT_NAME);
+            }
+            return nameNumber[name];
         }
 
         private boolean readNewName(int sort) {
-            if (tokens.sort != Tokens.WORD || lineHere() != NONE) {
+            int name = nameHere();
+            if (!isName(name)) {
                 return fails(FAULT_FORM);
             }
-            if (nameHere() != NONE) {
+            if (name != NONE) {
                 return fails(FAULT_AGAIN);
             }
             if (names >= NAMES) {
@@ -1232,6 +1244,11 @@ public final class WellVoice {
             names++;
             tokens.advance();
             return true;
+        }
+
+        /** Whether the WORD here, found among those known or not, may be a NAME. */
+        private boolean isName(int known) {
+            return tokens.sort == Tokens.WORD && (known == NONE || known >= LINES);
         }
 
         private int nameHere() {

@@ -65,6 +65,7 @@ public final class ChaseTest {
         t.allowed(x, "no fear", x.answers(0, false, true, false), 0);
         t.refused(x, "answers, fear 10", x.answers(10, true, true, true), -100, 2);
         t.refused(x, "answers, fear -1", x.answers(-1, true, true, true), -100, 2);
+        t.allowed(x, "answers behind a refused one", x.answers(1, true, true, true), 2);
         WellVoice none = new WellVoice();
         t.refused(none, "answers without a WELL", none.answers(10, true, true, true), -100, 1);
     }
@@ -79,6 +80,7 @@ public final class ChaseTest {
         t.refused(x, "rests(-1)", x.rests(-1), -1, 2);
         t.refused(x, "rest(10)", x.rest(10), -1, 2);
         t.refused(x, "rest(-1)", x.rest(-1), -1, 2);
+        t.allowed(x, "rest behind a refused one", x.rest(1), 11);
         WellVoice none = new WellVoice();
         t.refused(none, "rests(0) without a WELL", none.rests(0), -1, 1);
         t.refused(none, "rest(10) without a WELL", none.rest(10), -1, 1);

@@ -47,6 +47,7 @@ public final class DroughtTest {
         t.refused(x, "within(0, -1, 201)", x.within(0, -1, 201, true), -1, 1);
         t.refused(x, "within(0, 0, 201)", x.within(0, 0, 201, false), -1, 2);
         t.refused(x, "within(0, 0, -1)", x.within(0, 0, -1, true), -1, 2);
+        within(x, 0, 2, 8, 1, 25);
         WellVoice never = Checks.of(text(0));
         within(never, 0, 2, 200, 0, 1);
         WellVoice ever = Checks.of(text(100));
@@ -63,6 +64,7 @@ public final class DroughtTest {
         mean(x, 3, 17, 8);
         t.refused(x, "mean(5, true)", x.mean(5, true), -1, 1);
         t.refused(x, "mean(-1, false)", x.mean(-1, false), -1, 1);
+        mean(x, 3, 17, 8);
         WellVoice none = new WellVoice();
         t.refused(none, "mean(0, false)", none.mean(0, false), -1, 1);
         t.refused(none, "within(0, 0, 0, false)", none.within(0, 0, 0, false), -1, 1);

@@ -70,6 +70,7 @@ public final class EchoTest {
         odds(two, 0, 7, 23);
         t.refused(two, "odds(5, true)", two.odds(5, true), -1, 1);
         t.refused(two, "odds(-1, false)", two.odds(-1, false), -1, 1);
+        odds(two, 0, 7, 23);
     }
 
     private static void noFits() {

@@ -30,6 +30,9 @@ public final class TextTest {
         bounds();
         many();
         lacks();
+        wordsByLetters();
+        cut();
+        wellBehindWell();
         t.finish("TextTest");
     }
 
@@ -256,5 +259,60 @@ public final class TextTest {
         fault(6, HEAD + "^");
         fault(6, HEAD + "  ^");
         fault(1, HEAD + ";^");
+    }
+
+    /** Every word of a WELL that is no NAME, with another first letter, another last one, or one less. */
+    private static void wordsByLetters() {
+        String text = JOINED + ";way x a long 1 wet;voice i idle at a;voice s shy at a;voice o bold at a"
+            + ";folk f at a;echo a after 2;unsure a b;talk a b heard;talk a b lost";
+        text = text.replace(";way a b", ";cave x deep;way a b");
+        fault(0, text);
+        fault(0, text.replace("bold", "rover"));
+        String words = "well loud errs drought cave mouth deep way long dry wet voice idle shy bold folk at echo after"
+            + " unsure talk heard lost";
+        for (String word : words.split(" ")) {
+            int at = (" " + text.replace(';', ' ') + " ").indexOf(" " + word + " ");
+            String ahead = text.substring(0, at) + "^";
+            String behind = text.substring(at + word.length());
+            fault(1, ahead + "q" + word.substring(1) + behind);
+            fault(1, ahead + word.substring(0, word.length() - 1) + "q" + behind);
+            fault(1, ahead + word.substring(0, word.length() - 1) + behind);
+            fault(1, ahead + word + "q" + behind);
+        }
+    }
+
+    /** What stands behind the first n bytes is no part of the WELL, though it would go on there. */
+    private static void cut() {
+        WellVoice x = new WellVoice();
+        Checks.feed(x, TWO + ";echo a after 400;echo b after 0");
+        t.allowed(x, "well(), a number cut", x.well((TWO + ";echo a after 4").length()), 2);
+        t.due("size(7)", x.size(7), 1);
+        Checks.feed(x, TWO + ";cave seven deep");
+        t.refused(x, "well(), a word cut", x.well((TWO + ";cave seven dee").length()), -1, 4);
+        t.due("where()", x.where(), (TWO + ";cave seven ").length());
+        Checks.feed(x, HEAD + ";cave a deep;cave b deepq");
+        t.allowed(x, "well(), a word cut to what it must be", x.well((HEAD + ";cave a deep;cave b deep").length()), 2);
+    }
+
+    /** Nothing is left of a WELL before, nor of one that was refused. */
+    private static void wellBehindWell() {
+        WellVoice x = new WellVoice();
+        String full = HEAD + ";cave a mouth;cave b mouth;cave c mouth;way a b long 1 wet;way b c long 1 wet"
+            + ";way a c long 1 wet;voice v rover at c;folk f at b;echo a after 2;unsure a b;talk a b heard";
+        String plain = "well loud 9 errs 0 drought 0;cave c deep;cave b deep;cave a deep;way a b long 2 dry"
+            + ";way b c long 3 dry;way c a long 9 dry;talk a b lost;unsure c b";
+        for (String before : new String[] {full, full + ";dig"}) {
+            Checks.tell(x, before);
+            t.allowed(x, "well() behind another", Checks.tell(x, plain), 3);
+            t.allowed(x, "cave(0, 0)", x.cave(0, 0), 0);
+            t.allowed(x, "cave(2, 0)", x.cave(2, 0), 0);
+            t.allowed(x, "far(2, 1)", x.far(2, 1), 2);
+            t.allowed(x, "far(0, 2)", x.far(0, 2), 5);
+            t.allowed(x, "liar()", x.liar(), 0);
+            t.allowed(x, "fits()", x.fits(), 7);
+            t.refused(x, "voice(0, 0)", x.voice(0, 0), -1, 1);
+            t.refused(x, "folk(0)", x.folk(0), -1, 1);
+            t.refused(x, "dryBy(1)", x.dryBy(1), -1, 1);
+        }
     }
 }

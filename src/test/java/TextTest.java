@@ -284,9 +284,10 @@ public final class TextTest {
     /** What stands behind the first n bytes is no part of the WELL, though it would go on there. */
     private static void cut() {
         WellVoice x = new WellVoice();
-        Checks.feed(x, TWO + ";echo a after 400;echo b after 0");
-        t.allowed(x, "well(), a number cut", x.well((TWO + ";echo a after 4").length()), 2);
+        Checks.feed(x, TWO + ";voice v idle at a;echo a after 05;echo b after 0");
+        t.allowed(x, "well(), a number cut", x.well((TWO + ";voice v idle at a;echo a after 0").length()), 2);
         t.due("size(7)", x.size(7), 1);
+        t.allowed(x, "judge(), the echo told is 0", x.judge(), -2);
         Checks.feed(x, TWO + ";cave seven deep");
         t.refused(x, "well(), a word cut", x.well((TWO + ";cave seven dee").length()), -1, 4);
         t.due("where()", x.where(), (TWO + ";cave seven ").length());

@@ -1,5 +1,7 @@
 /** Counts the answers that are not as due, and puts texts on tapes. */
 final class Checks {
+    /** What the next answers are about; told ahead of an answer that is not as due. */
+    String about = "";
     private int right = 0;
     private int wrong = 0;
 
@@ -9,7 +11,7 @@ final class Checks {
         } else {
             wrong++;
             if (wrong <= 40) {
-                System.out.println(call + " answered " + got + ", due is " + want);
+                System.out.println(about + call + " answered " + got + ", due is " + want);
             }
         }
     }
@@ -36,6 +38,10 @@ final class Checks {
 
     void allowed(WellVoice x, String call, boolean got) {
         allowed(x, call, got ? 1 : 0, 1);
+    }
+
+    int made() {
+        return right + wrong;
     }
 
     void finish(String name) {
@@ -71,6 +77,16 @@ final class Checks {
             throw new IllegalArgumentException("fault " + x.fault() + " at " + x.where() + " of: " + text);
         }
         return x;
+    }
+
+    /** Ways of one length, dry, between caves of one letter each: "ab bc" joins a to b and b to c. */
+    static String ways(int length, String ends) {
+        StringBuilder text = new StringBuilder();
+        for (String pair : ends.split(" ")) {
+            text.append(";way ").append(pair.charAt(0)).append(' ').append(pair.charAt(1)).append(" long ")
+                .append(length).append(" dry");
+        }
+        return text.toString();
     }
 
     /** Whether led(i) throws what is due. */
